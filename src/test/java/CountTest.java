@@ -30,6 +30,8 @@ public final class CountTest {
         dueAll(desk, 0, 0, 2, 2, 0xE3FF, 0, 0, 0, size, 3 * 255);
         Check.read(desk, Check.file(2, 32767, "FFFFFF7F C001"));
         dueAll(desk, 0, 1, 2, 1, 32767, (1 << 28) - 1, 0, 0, size, 32767);
+        Check.read(desk, Check.file(0, 1, "00 903C01 05 FF5103000001"));
+        dueAll(desk, 0, 2, 0, 1, 1, 5, 1, 1, size, 1);
         CHECK.close();
     }
 

@@ -8,6 +8,7 @@ public final class EventTest {
         bytes();
         order();
         usedAgain();
+        manyBytes();
         CHECK.close();
     }
 
@@ -65,6 +66,16 @@ public final class EventTest {
             CHECK.due("tick " + k, desk.event(k, 0), ticks[k]);
             CHECK.due("track " + k, desk.event(k, 1), tracks[k]);
             CHECK.due("byte " + k, desk.event(k, 3), bytes[k]);
+        }
+    }
+
+    /** The bytes of earlier lists take no room from later ones. */
+    private static void manyBytes() {
+        MidiDesk desk = new MidiDesk();
+        for (int i = 0; i < 4; i++) {
+            CHECK.due("read of 6144 bytes", Check.read(desk, Check.file(0, 96,
+                    "00 F0 B000 " + String.format("%02X", i).repeat(6144))), 0);
+            CHECK.due("last byte", desk.byteOf(0, 6143), i);
         }
     }
 

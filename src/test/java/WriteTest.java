@@ -47,11 +47,11 @@ public final class WriteTest {
 
     private static void brief() {
         String left = "00 903C40 01 3D40 00 913D40 00 903D40 00 C001 00 02 00 FF0100 00 C003 00 04 "
-                + "00 F001 00 00 C005 00 06 00 F700 00 F700 00 FF0100 00 FF0100 00 C007";
+                + "00 F001 00 00 C005 00 06 00 F000 00 F000 00 F700 00 F700 00 FF0100 00 FF0100 00 C007";
         MidiDesk desk = Check.desk(Check.file(0, 96, left));
         due(desk, 0, true, Check.file(0, 96, left));
         String full = "00 903C40 01 903D40 00 913D40 00 903D40 00 C001 00 C002 00 FF0100 00 C003 "
-                + "00 C004 00 F001 00 00 C005 00 C006 00 F700 00 F700 00 FF0100 00 FF0100 00 C007";
+                + "00 C004 00 F001 00 00 C005 00 C006 00 F000 00 F000 00 F700 00 F700 00 FF0100 00 FF0100 00 C007";
         due(desk, 0, false, Check.file(0, 96, full));
         due(Check.desk(Check.file(0, 96, full)), 1, true, Check.file(1, 96, left));
         MidiDesk two = Check.desk(Check.file(1, 96, "00 903C40 02 903C00", "01 903D40 02 903D00"));
@@ -137,10 +137,10 @@ public final class WriteTest {
         CHECK.due("written is kept", desk.count(8), 32);
     }
 
-    /** Statuses that were left out make a file of 11976 bytes one of 12000 and more. */
+    /** Statuses that were left out make a file of 12000 bytes, or one more, out of a shorter one. */
     private static void tooLong() {
         for (int more = 0; more <= 1; more++) {
-            int size = 7966 + more;
+            int size = 7974 + more;
             String big = "00 F0 " + String.format("%02X%02X", size >> 7 | 128, size & 127)
                     + "11".repeat(size);
             MidiDesk desk = Check.desk(Check.file(0, 96, big + "00 903C40" + "00 3C40".repeat(998)));
