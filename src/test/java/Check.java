@@ -5,8 +5,13 @@ final class Check {
     static final String HEAD = "4D546864 00000006 ";
     static final String TRACK = "4D54726B ";
     static final String END = "00 FF2F00";
+    /** Where the first track's letters, and its first byte behind the length, lie. */
+    static final int LETTERS = 14;
+    static final int BODY = 22;
+    static final int LAST_TICK = (1 << 28) - 1;
 
     private final String name;
+    private String sentence = "";
     private int asked = 0;
     private int wrong = 0;
 
@@ -18,19 +23,27 @@ final class Check {
         long answer();
     }
 
+    /** The document's words that the answers from here on are held against. */
+    void sentence(String words) {
+        sentence = " (" + words + ")";
+    }
+
+    private void tell(String call, String got, String want) {
+        wrong++;
+        System.out.println(name + ": " + call + " answered " + got + ", due is " + want + sentence);
+    }
+
     void due(String call, long got, long want) {
         asked++;
         if (got != want) {
-            wrong++;
-            System.out.println(name + ": " + call + " answered " + got + ", due is " + want);
+            tell(call, Long.toString(got), Long.toString(want));
         }
     }
 
     void due(String call, String got, String want) {
         asked++;
         if (!got.equals(want)) {
-            wrong++;
-            System.out.println(name + ": " + call + " answered " + got + ", due is " + want);
+            tell(call, got, want);
         }
     }
 
@@ -40,6 +53,19 @@ final class Check {
 
     void throwsArgument(String call, Call c) {
         due(call, thrown(c), "IllegalArgumentException");
+    }
+
+    /** What a new object answers to a read of this file; a kind of 0 means that it has no fault. */
+    void dueRead(String what, String hex, int kind, int place) {
+        MidiDesk desk = new MidiDesk();
+        due(what, read(desk, hex), kind == 0 ? 0 : kind + 16 * place);
+        due(what + ", input", desk.count(0), 0);
+        due(what + ", no list", desk.count(3) == -1 ? 1 : 0, kind == 0 ? 0 : 1);
+    }
+
+    /** A track of just these bytes, with no end of its own; the place counts from its first byte. */
+    void dueTrack(String what, String body, int kind, int place) {
+        dueRead(what, head(1, 1, 96) + chunk(TRACK, body), kind, BODY + place);
     }
 
     static String thrown(Call c) {
@@ -127,6 +153,24 @@ final class Check {
             row[what] = desk.event(k, what);
         }
         return Arrays.toString(row);
+    }
+
+    /** One value of all events of the list, as one text. */
+    static String column(MidiDesk desk, int what) {
+        StringBuilder all = new StringBuilder();
+        for (int k = 0; k < desk.count(1); k++) {
+            all.append(desk.event(k, what)).append(' ');
+        }
+        return all.toString();
+    }
+
+    /** A number in so many bytes. */
+    static String number(int value, int bytes) {
+        StringBuilder all = new StringBuilder();
+        for (int i = bytes - 1; i >= 0; i--) {
+            all.append(String.format("%02X", value >> (7 * i) & 127 | (i > 0 ? 128 : 0)));
+        }
+        return all.toString();
     }
 
     static String plain(String hex) {

@@ -1,7 +1,7 @@
 /** Promises 10 and 11: grid and clear. */
 public final class GridTest {
     private static final Check CHECK = new Check("grid");
-    private static final int LAST = (1 << 28) - 1;
+    private static final int LAST = Check.LAST_TICK;
 
     public static void main(String[] args) {
         rounding();
@@ -13,14 +13,6 @@ public final class GridTest {
         CHECK.close();
     }
 
-    private static String column(MidiDesk desk, int what) {
-        StringBuilder all = new StringBuilder();
-        for (int k = 0; k < desk.count(1); k++) {
-            all.append(desk.event(k, what)).append(' ');
-        }
-        return all.toString();
-    }
-
     private static MidiDesk steps() {
         return Check.desk(Check.file(0, 96, "00 C000 01 C001 01 C002 01 C003 01 C004 01 C005 01 C006 01 C007"));
     }
@@ -28,22 +20,22 @@ public final class GridTest {
     private static void rounding() {
         MidiDesk even = steps();
         CHECK.due("grid(4)", even.grid(4), 6);
-        CHECK.due("ticks on 4", column(even, 0), "0 0 4 4 4 4 8 8 ");
+        CHECK.due("ticks on 4", Check.column(even, 0), "0 0 4 4 4 4 8 8 ");
         CHECK.due("grid(4) again", even.grid(4), 0);
         MidiDesk odd = steps();
         CHECK.due("grid(3)", odd.grid(3), 5);
-        CHECK.due("ticks on 3", column(odd, 0), "0 0 3 3 3 6 6 6 ");
+        CHECK.due("ticks on 3", Check.column(odd, 0), "0 0 3 3 3 6 6 6 ");
         MidiDesk one = steps();
         CHECK.due("grid(1)", one.grid(1), 0);
-        CHECK.due("ticks on 1", column(one, 0), "0 1 2 3 4 5 6 7 ");
+        CHECK.due("ticks on 1", Check.column(one, 0), "0 1 2 3 4 5 6 7 ");
         MidiDesk far = steps();
         CHECK.due("grid(100000)", far.grid(100000), 7);
-        CHECK.due("ticks on 100000", column(far, 0), "0 0 0 0 0 0 0 0 ");
-        CHECK.due("order of before", column(far, 3), "0 1 2 3 4 5 6 7 ");
+        CHECK.due("ticks on 100000", Check.column(far, 0), "0 0 0 0 0 0 0 0 ");
+        CHECK.due("order of before", Check.column(far, 3), "0 1 2 3 4 5 6 7 ");
         MidiDesk half = Check.desk(Check.file(0, 96, "83864F C000 01 C001"));
-        CHECK.due("ticks ahead", column(half, 0), "49999 50000 ");
+        CHECK.due("ticks ahead", Check.column(half, 0), "49999 50000 ");
         CHECK.due("grid(100000)", half.grid(100000), 2);
-        CHECK.due("ticks behind", column(half, 0), "0 100000 ");
+        CHECK.due("ticks behind", Check.column(half, 0), "0 100000 ");
         CHECK.due("count(5)", half.count(5), 100000);
         CHECK.due("grid without events", Check.desk(Check.file(0, 96, "")).grid(7), 0);
     }
@@ -52,25 +44,25 @@ public final class GridTest {
     private static void newOrder() {
         MidiDesk desk = Check.desk(Check.file(1, 96, "09 C001 01 C002 05 C003",
                 "07 C004 00 C005 04 C006", "08 C007 08 C008"));
-        CHECK.due("bytes ahead", column(desk, 3), "4 5 7 1 2 6 3 8 ");
+        CHECK.due("bytes ahead", Check.column(desk, 3), "4 5 7 1 2 6 3 8 ");
         CHECK.due("grid(10)", desk.grid(10), 7);
-        CHECK.due("ticks", column(desk, 0), "10 10 10 10 10 10 20 20 ");
-        CHECK.due("tracks", column(desk, 1), "0 0 1 1 1 2 0 2 ");
-        CHECK.due("bytes", column(desk, 3), "1 2 4 5 6 7 3 8 ");
+        CHECK.due("ticks", Check.column(desk, 0), "10 10 10 10 10 10 20 20 ");
+        CHECK.due("tracks", Check.column(desk, 1), "0 0 1 1 1 2 0 2 ");
+        CHECK.due("bytes", Check.column(desk, 3), "1 2 4 5 6 7 3 8 ");
     }
 
     private static void lateTicks() {
         MidiDesk desk = Check.desk(Check.file(1, 96, "01 C000", "FFFFFF7F C001"));
         CHECK.throwsArgument("grid(2)", () -> desk.grid(2));
         CHECK.throwsArgument("grid(65536)", () -> desk.grid(65536));
-        CHECK.due("ticks as before", column(desk, 0), "1 " + LAST + " ");
+        CHECK.due("ticks as before", Check.column(desk, 0), "1 " + LAST + " ");
         CHECK.due("grid(1)", desk.grid(1), 0);
         // 2^28 - 1 is a multiple of 3, and its rest to 10 is 5.
         CHECK.due("grid(3)", desk.grid(3), 1);
-        CHECK.due("ticks on 3", column(desk, 0), "0 " + LAST + " ");
+        CHECK.due("ticks on 3", Check.column(desk, 0), "0 " + LAST + " ");
         CHECK.throwsArgument("grid(10)", () -> desk.grid(10));
         CHECK.due("grid(11)", desk.grid(11), 1);
-        CHECK.due("ticks on 11", column(desk, 0), "0 " + (LAST + 5) / 11 * 11 + " ");
+        CHECK.due("ticks on 11", Check.column(desk, 0), "0 " + (LAST + 5) / 11 * 11 + " ");
     }
 
     private static void wrongSteps() {
@@ -78,7 +70,7 @@ public final class GridTest {
         for (int step : new int[] {0, -1, 100001, Integer.MIN_VALUE, Integer.MAX_VALUE}) {
             CHECK.throwsArgument("grid(" + step + ")", () -> desk.grid(step));
         }
-        CHECK.due("ticks as before", column(desk, 0), "0 1 2 3 4 5 6 7 ");
+        CHECK.due("ticks as before", Check.column(desk, 0), "0 1 2 3 4 5 6 7 ");
         desk.read();
         CHECK.throwsState("grid(1)", () -> desk.grid(1));
         CHECK.throwsState("grid(0)", () -> desk.grid(0));
@@ -88,8 +80,8 @@ public final class GridTest {
         MidiDesk desk = Check.desk(Check.file(2, 96, "00 C001 02 C002", "01 C003 05 FF 01 01 77",
                 "02 C004"));
         CHECK.due("clear(0)", desk.clear(0), 2);
-        CHECK.due("tracks", column(desk, 1), "1 2 1 ");
-        CHECK.due("bytes", column(desk, 3), "3 4 1 ");
+        CHECK.due("tracks", Check.column(desk, 1), "1 2 1 ");
+        CHECK.due("bytes", Check.column(desk, 3), "3 4 1 ");
         CHECK.due("byteOf(2, 0)", desk.byteOf(2, 0), 0x77);
         CHECK.due("count(1)", desk.count(1), 3);
         CHECK.due("count(3)", desk.count(3), 3);

@@ -48,11 +48,7 @@ public final class NotesTest {
     }
 
     private static String firsts(MidiDesk desk) {
-        StringBuilder all = new StringBuilder();
-        for (int k = 0; k < desk.count(1); k++) {
-            all.append(desk.event(k, 3)).append(' ');
-        }
-        return all.toString();
+        return Check.column(desk, 3);
     }
 
     private static void transposed() {

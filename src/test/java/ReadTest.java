@@ -1,9 +1,8 @@
 /** Promise 3: read, with every fault and its place, and the short forms. */
 public final class ReadTest {
     private static final Check CHECK = new Check("read");
-    /** Where the first track's letters, and its first byte behind the length, lie. */
-    private static final int LETTERS = 14;
-    private static final int BODY = 22;
+    private static final int LETTERS = Check.LETTERS;
+    private static final int BODY = Check.BODY;
 
     public static void main(String[] args) {
         missingBytes();
@@ -24,15 +23,12 @@ public final class ReadTest {
     }
 
     private static void due(String what, String hex, int kind, int place) {
-        MidiDesk desk = new MidiDesk();
-        CHECK.due(what, Check.read(desk, hex), kind == 0 ? 0 : kind + 16 * place);
-        CHECK.due(what + ", input", desk.count(0), 0);
-        CHECK.due(what + ", list", desk.count(3) == -1 ? 1 : 0, kind == 0 ? 0 : 1);
+        CHECK.dueRead(what, hex, kind, place);
     }
 
     /** A body in a chunk of just its length, with no end of its own. */
     private static void dueTrack(String what, String body, int kind, int place) {
-        due(what, Check.head(1, 1, 96) + Check.chunk(Check.TRACK, body), kind, place);
+        CHECK.dueTrack(what, body, kind, place - BODY);
     }
 
     /** Cut anywhere, a file misses a byte at its end, or a track where a chunk could begin. */

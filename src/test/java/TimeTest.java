@@ -1,7 +1,7 @@
 /** Promises 6 and 7: time and rest. */
 public final class TimeTest {
     private static final Check CHECK = new Check("time");
-    private static final int LAST = (1 << 28) - 1;
+    private static final int LAST = Check.LAST_TICK;
 
     public static void main(String[] args) {
         firstTempo();
